@@ -72,6 +72,10 @@ public final class JoiningsTest {
         Check.due("hang together by two of three ties", x.joining(0, 3), 4);
         Check.due("no price for the words themselves", x.joining(0, 1), 4);
         Check.due("no other joining", x.count(4), 1);
+        WordsAndRows y = Feeder.house("table a k text , f a , g a ;",
+            "a x none none ; a y 0 none ; a z 1 0 ; a v 0 none ; a v 0 none ; a v 0 none ; a v 0 none ; a v 0 none ;");
+        Feeder.ask(y, "x y z");
+        Check.due("the dearest tie of a ring is not taken", y.joining(0, 3), 2);
         Feeder.ask(x, "near xx ys k v");
         Check.due("terms at 2, 1, 4 and 0, ties 1 and 3 and 3", x.joining(0, 1), 2 + 1 + 4 + 3 + 3);
     }
@@ -217,9 +221,11 @@ public final class JoiningsTest {
         WordsAndRows x = Feeder.house("table a k text , up a ; table b k text ;", "a marta none ; a bill 0 ; b anton ;");
         Check.due("no ask", x.left(), -1);
         String[] asks = {"marta", "marta bill", "zz", "zz yy", "zz yy xx ww", "marta zz", "zz marta", "marta anton", "marta anton zz",
-            "zz marta anton", "anton marta bill", "marta anton bill zz", "zz yy xx marta", "marta zz yy xx", "b a marta", "a b anton bill"};
+            "zz marta anton", "anton marta bill", "marta anton bill zz", "zz yy xx marta", "marta zz yy xx", "b a marta", "a b anton bill",
+            "marta bill anton", "a marta bill anton"};
         int[] due = {-1, -1, -1, -1, -1, 2, 1, 1, 5,
-            3, 1, 10, 7, 14, 1, 6};
+            3, 1, 10, 7, 14, 1, 6,
+            4, 8};
         for (int i = 0; i < asks.length; i++) {
             Feeder.ask(x, asks[i]);
             Check.due("left of: " + asks[i], x.left(), due[i]);

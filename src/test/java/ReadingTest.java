@@ -2,6 +2,8 @@
 public final class ReadingTest {
     private static final String TWO = "table a k text ; table b k text , to a , up b , n number ;";
 
+    private static final String[] RESERVED = {"table", "text", "number", "none", "near", "over", "under", "of"};
+
     public static void main(String[] args) {
         newObject();
         feed();
@@ -74,6 +76,15 @@ public final class ReadingTest {
     }
 
     private static void tables() {
+        for (String word : RESERVED) {
+            wrongTables("table " + word + " k text ;", 1, 6);
+            wrongTables("table a " + word + " text ;", 1, 8);
+            wrongRows("a " + word + " ;", 1, 2);
+            wrongRows(word + " x ;", 1, 0);
+            wrongAsk("near " + word, 1, 5);
+            wrongQuestion("a : near " + word + " of a", 1, 9);
+            wrongQuestion("a : x of " + word, 1, 9);
+        }
         wrongTables("tables a k text ;", 1, 0);
         wrongTables("; table a k text ;", 1, 0);
         wrongTables("table", 1, 5);
@@ -141,6 +152,12 @@ public final class ReadingTest {
         Check.due("the width stays", x.count(4), 0);
         Check.due("hide from the person that stayed", x.hide(2, 1, true), true);
         Check.due("that person asks still", x.count(2), 1);
+        Check.due("tables a third time", Feeder.tables(x, "table a k text ;"), 0);
+        Check.due("rows a third time", Feeder.rows(x, "a x ; a y ;"), 0);
+        Check.due("all are seen", x.count(2), 2);
+        Check.due("numbered from 0", x.row(1, 1), 1);
+        Check.due("tables a fourth time", Feeder.tables(x, "table a k text , up a ;"), 0);
+        Check.due("no row to point to", Feeder.rows(x, "a x 0 ;"), Check.fault(4, 4));
     }
 
     private static void wrongRows(String text, int kind, int place) {

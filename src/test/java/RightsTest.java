@@ -140,7 +140,10 @@ public final class RightsTest {
 
     private static void letsForAll() {
         WordsAndRows x = towns();
+        Feeder.ask(x, "p b");
+        Check.due("not joined", x.count(4), 0);
         x.lets(0);
+        Check.due("joined at once", x.count(4), 1);
         x.person(2);
         Check.due("let for another person", x.tie(0, 2), 3);
         x.hide(2, 2, true);
