@@ -1383,6 +1383,8 @@ public final class WordsAndRows {
         /** For each level of a set that grows: the groups that hang together, as all that is tied to one. */
         private final int[] reach = new int[(WIDEST + 1) * WIDEST];
         private final int[] groups = new int[WIDEST + 1];
+        /** For each ROW those few enough TIES away to be in one set with it. */
+        private final int[] within = new int[House.MOST_ROWS];
         /** How many sets of so many ROWS at most there are. */
         private final int[] setsUpTo = new int[WIDEST + 1];
         private final int[] pricePlaces = new int[PRICES + 1];
@@ -1393,7 +1395,6 @@ public final class WordsAndRows {
         private long[] found = new long[FEW];
         private long[] ordered = new long[FEW];
         private int drops;
-        private int seen;
         private int size;
         private int termCount;
         private int allTerms;
@@ -1407,8 +1408,7 @@ public final class WordsAndRows {
             this.hits = hits;
         }
 
-        void run(int seenRows, int mostRows, int terms) {
-            seen = seenRows;
+        void run(int seen, int mostRows, int terms) {
             termCount = terms;
             allTerms = (1 << terms) - 1;
             sets = 0;
@@ -1417,10 +1417,14 @@ public final class WordsAndRows {
             coversSeen = 0;
             groups[0] = 0;
             setsUpTo[0] = 0;
+            for (int row = 0; row < House.MOST_ROWS; row++) {
+                within[row] = 1 << row;
+            }
             for (int rows = 1; rows <= mostRows && rows <= WIDEST; rows++) {
                 size = rows;
-                grow(0, 0, 0, House.MOST_ROWS);
+                grow(0, 0, 0, seen);
                 setsUpTo[rows] = sets;
+                widen();
             }
             for (int i = 0; i < joinings; i++) {
                 setPrice(i);
@@ -1428,31 +1432,45 @@ public final class WordsAndRows {
             order();
         }
 
-        /** Highest ROWS first, each rising: so the sets come as bits from the least on. */
-        private void grow(int level, int set, int covered, int above) {
-            if (level + 1 >= size) {
-                lookAtLast(level, set, covered, above);
-                return;
-            }
-            for (int row = size - level - 1; row < above; row++) {
-                if ((seen >> row & 1) != 0 && addToGroups(level, row)) {
-                    grow(level + 1, set | 1 << row, covered | hits.held[row], row);
+        /** One TIE farther, as the sets have one ROW more. */
+        private void widen() {
+            for (int row = 0; row < House.MOST_ROWS; row++) {
+                int rows = within[row];
+                for (int n = Integer.bitCount(rows); n > 0; n--) {
+                    within[row] |= ties.tied[Integer.numberOfTrailingZeros(rows)];
+                    rows &= rows - 1;
                 }
             }
         }
 
-        /** False: a group is tied to no lower ROW, so that it can't hang together with any that come. */
-        private boolean addToGroups(int level, int row) {
+        /** Highest ROWS first, each rising: so the sets come as bits from the least on. */
+        private void grow(int level, int set, int covered, int rows) {
+            if (level + 1 >= size) {
+                lookAtLast(level, set, covered, rows);
+                return;
+            }
+            int rest = rows;
+            for (int n = Integer.bitCount(rows); n > 0; n--) {
+                int row = Integer.numberOfTrailingZeros(rest);
+                rest &= rest - 1;
+                int lower = rows & (1 << row) - 1 & within[row];
+                if (lower != 0 && addToGroups(level, row, lower)) {
+                    grow(level + 1, set | 1 << row, covered | hits.held[row], lower);
+                }
+            }
+        }
+
+        /** False: a group is tied to no ROW that may come, so that it can't hang together with them. */
+        private boolean addToGroups(int level, int row, int coming) {
             int from = level * WIDEST;
             int to = from + WIDEST;
-            int below = (1 << row) - 1 & seen;
             int merged = ties.tied[row];
             int kept = 0;
             for (int i = 0; i < groups[level]; i++) {
                 int group = reach[from + i];
                 if ((group >> row & 1) != 0) {
                     merged |= group;
-                } else if ((group & below) == 0) {
+                } else if ((group & coming) == 0) {
                     return false;
                 } else {
                     reach[to + kept++] = group;
@@ -1460,11 +1478,11 @@ public final class WordsAndRows {
             }
             reach[to + kept] = merged;
             groups[level + 1] = kept + 1;
-            return (merged & below) != 0;
+            return (merged & coming) != 0;
         }
 
-        private void lookAtLast(int level, int set, int covered, int above) {
-            int last = (1 << above) - 1 & seen;
+        private void lookAtLast(int level, int set, int covered, int rows) {
+            int last = rows;
             for (int i = 0; i < groups[level]; i++) {
                 last &= reach[level * WIDEST + i];
             }
