@@ -13,9 +13,11 @@ public final class SectionEdgesTest {
         pointingByThisColumn();
         width();
         noneCanBeLeftOut();
+        noneOfFiveCanBeLeftOut();
         priceOfAJoining();
         orderOfJoinings();
         looksAtAllSets();
+        looksAtNoOtherSets();
         looksBehindTheLast();
         bound();
         boundOfWhatIsSeen();
@@ -283,6 +285,20 @@ public final class SectionEdgesTest {
         Check.due("two of which each is needed", x.joining(1, 0), 6);
     }
 
+    private static void noneOfFiveCanBeLeftOut() {
+        // 1-0-2-3 hold both words, and 4 hangs with 0 for nothing
+        WordsAndRows x = Feeder.house("table a k text , up a ;", "a m none ; a p 0 ; a m 0 ; a q 2 ; a n 0 ; a n 1 ; a n 3 ; a n 2 ;");
+        x.width(5);
+        Feeder.ask(x, "p q");
+        Check.due("four rows, and none with a fifth", x.count(4), 1);
+        Check.due("the four", x.joining(0, 0), 15);
+        Feeder.ask(x, "p q n");
+        // three point to 0, so that a tie to it is at 2
+        int[] due = {1 << 5 | 15, 1 << 6 | 15, 1 << 7 | 15, 1 << 4 | 15};
+        Check.due("with a fifth that holds another", x.count(4), due.length);
+        for (int k = 0; k < due.length; k++) Check.due("the fifth " + k, x.joining(k, 0), due[k]);
+    }
+
     /** "PRICE of a JOINING: the least sum of TIES by which they hang together, and for each TERM the least PRICE at which one of its ROWS HOLDS it." */
     private static void priceOfAJoining() {
         StringBuilder rows = new StringBuilder("a m ;");
@@ -305,6 +321,12 @@ public final class SectionEdgesTest {
         Check.due("a tie at 2", y.tie(1, 0), 2);
         Feeder.ask(y, "p q r");
         Check.due("the dearest of three is not needed", y.joining(0, 3), 2);
+        WordsAndRows z = Feeder.house("table a k text , f a , g a , h a ;",
+            "a p none none none ; a q none 0 none ; a r 1 none 0 ; a v 1 none none ; a v 1 none none ;");
+        // 2-1 at 2 (f: three point to 1), 1-0 and 2-0 at 1
+        Check.due("another tie at 2", z.tie(2, 1), 2);
+        Feeder.ask(z, "p q r");
+        Check.due("nor is that one", z.joining(0, 3), 2);
         Feeder.ask(y, "ps q k");
         Check.due("a form, a cell and a column's name", y.joining(0, 1), 2 + 1 + 0 + 4);
         Feeder.ask(y, "v r");
@@ -360,6 +382,43 @@ public final class SectionEdgesTest {
         sets(hub, 4, 7, 10, 11);
     }
 
+    /** Each set of rows tried by itself, in houses of ten rows that point to two ahead of them, or to none. */
+    private static void looksAtNoOtherSets() {
+        long chance = 7;
+        for (int house = 0; house < 24; house++) {
+            StringBuilder rows = new StringBuilder();
+            for (int row = 0; row < 10; row++) {
+                rows.append("a m");
+                for (int key = 0; key < 2; key++) {
+                    chance = (chance * 25214903917L + 11) & (1L << 48) - 1;
+                    int to = (int) (chance >> 20) % (row + 4);
+                    rows.append(' ').append(to < row ? String.valueOf(to) : "none");
+                }
+                rows.append(" ;");
+            }
+            WordsAndRows x = Feeder.house("table a k text , f a , g a ;", rows.toString());
+            Feeder.ask(x, "m");
+            int[] tied = new int[10];
+            for (int a = 0; a < 10; a++) for (int b = 0; b < a; b++) if (x.tie(a, b) > 0) {
+                tied[a] |= 1 << b;
+                tied[b] |= 1 << a;
+            }
+            int[] upTo = new int[5];
+            for (int set = 1; set < 1024; set++) {
+                for (int n = Integer.bitCount(set); n <= 5 && hangs(set, tied); n++) upTo[n - 1]++;
+            }
+            sets(x, upTo);
+        }
+    }
+
+    private static boolean hangs(int set, int[] tied) {
+        int reached = Integer.lowestOneBit(set);
+        for (int again = 0; again < 10; again++) {
+            for (int row = 0; row < 10; row++) if ((reached >> row & 1) != 0) reached |= tied[row] & set;
+        }
+        return reached == set;
+    }
+
     /** ".. behind the first n of them: the least PRICE of a JOINING among them"; "(NONE: all were looked at ..)". */
     private static void looksBehindTheLast() {
         WordsAndRows x = Feeder.house("table a k text , up a ;", "a ps none ; a q 0 ; a p 1 ;");
@@ -403,6 +462,12 @@ public final class SectionEdgesTest {
         for (int n = 0; n < 12; n++) Check.due("a term nowhere", x.looks(n, 1), -1);
         Feeder.ask(x, "zz a k");
         Check.due("nor with two others", x.looks(0, 1), -1);
+        Feeder.ask(x, "a k qs ps");
+        Check.due("four terms: 3, 4, 0 and 0", x.looks(0, 1), 7);
+        Feeder.ask(x, "k k k k");
+        Check.due("four terms at 4", x.looks(single, 1), 16 + 1);
+        Feeder.ask(x, "k");
+        Check.due("then one alone", x.looks(0, 1), 4);
         WordsAndRows y = Feeder.house("table a k text ;", "a p ; a q ;");
         Feeder.ask(y, "a k");
         Check.due("a bound for single rows where there is no tie", y.looks(0, 1), 7);
@@ -675,6 +740,7 @@ public final class SectionEdgesTest {
         offers("one row each", "a x ; b x ;", 4, 80);
         offers("of one letter", "a a ; b a ; a a ;", 4);
         offers("another cell", "a x ; b y ;");
+        offers("another cell than one letter", "a a ; b x ;");
         offers("no row in the other", "a x ;");
         offers("no row in the first", "b x ;");
         offers("no row at all", "");
