@@ -182,6 +182,12 @@ public final class SectionEdgesTest {
     }
 
     private static void everyLetterOfEight() {
+        WordsAndRows y = Feeder.house("table t k text ;", "t zzzzzzzz ; t aaaaaaaa ;");
+        Check.due("the greatest word, its first letter changed", price(y, "near azzzzzzz", 0), 2);
+        Check.due("the greatest word, one letter left out", price(y, "near zzzzzzz", 0), 2);
+        Check.due("the least of eight letters, its first changed", price(y, "near zaaaaaaa", 1), 2);
+        Check.due("the least of eight letters, one left out", price(y, "near aaaaaaa", 1), 2);
+        Check.due("the greatest and the least", price(y, "near zzzzzzzz", 1), -1);
         String word = "abcdefgh";
         WordsAndRows x = Feeder.house("table t k text ;", "t " + word + " ; t mnopqrs ;");
         for (int i = 0; i < 8; i++) {
