@@ -1,6 +1,5 @@
 import java.util.ArrayList;
 import java.util.List;
-import java.util.NoSuchElementException;
 import java.util.Random;
 
 /** Runs of chance calls, all promises among them, held against the Model; the chance is the same each time. */
@@ -11,9 +10,8 @@ public final class ModelTest {
     private static final int[] EDGES = {Integer.MIN_VALUE, Integer.MAX_VALUE, -2, -1, 31, 32, 33, 40, 64, 1000000, 1000001};
 
     private final Random chance;
-    private final WordsAndRows x = new WordsAndRows();
-    private final Model m = new Model();
-    private final List<String> log = new ArrayList<>();
+    private final Pair pair = new Pair();
+    private final Model m = pair.m;
     private final List<List<String>> kinds = new ArrayList<>();
     private final List<String> names = new ArrayList<>();
 
@@ -31,7 +29,7 @@ public final class ModelTest {
             if (wrong != null) {
                 bad++;
                 System.out.println("run " + seed + ": " + wrong);
-                for (String line : test.log) System.out.println("    " + line);
+                for (String line : test.pair.log) System.out.println("    " + line);
             }
         }
         System.out.println(bad == 0 ? runs + " runs are as the model's" : bad + " runs are not as the model's");
@@ -56,10 +54,10 @@ public final class ModelTest {
         if (what < 4) return tellRows(1 + chance.nextInt(large ? 8 : 3), chance.nextInt(2) == 0);
         if (what < 11) return tellAsk(chance.nextInt(4) == 0);
         if (what < 17) return readQuestion();
-        if (what < 19) return same("width", number(6), 0);
-        if (what < 21) return same("person", number(4), 0);
-        if (what < 24) return same("hide", Math.floorMod(number(4), 6) * 64 + Math.floorMod(number(30), 32), chance.nextInt(2));
-        if (what < 26) return same("lets", number(4), 0);
+        if (what < 19) return pair.same("width", number(6), 0);
+        if (what < 21) return pair.same("person", number(4), 0);
+        if (what < 24) return pair.same("hide", Math.floorMod(number(4), 6) * 64 + Math.floorMod(number(30), 32), chance.nextInt(2));
+        if (what < 26) return pair.same("lets", number(4), 0);
         String[] calls = {"row", "cell", "holds", "found", "tie", "joining", "place", "looks", "asked", "said", "choose",
             "parts", "left", "near", "meant", "judged", "offered", "count"};
         int[] firsts = {30, 12, 12, 5, 12, 12, 12, 60, 6, 3, 4, 3, 1, 5, 0, 4, 6, 11};
@@ -67,7 +65,7 @@ public final class ModelTest {
         int call = chance.nextInt(calls.length);
         int first = number(firsts[call]);
         if (calls[call].equals("meant")) first = chance.nextInt(3) == 0 ? chance.nextInt(1 << 12) : m.joining(number(6), 0);
-        return same(calls[call], first, number(seconds[call]));
+        return pair.same(calls[call], first, number(seconds[call]));
     }
 
     private int number(int below) {
@@ -75,62 +73,7 @@ public final class ModelTest {
         return below <= 0 ? 0 : chance.nextInt(chance.nextBoolean() ? below : Math.min(below, 4));
     }
 
-    private String same(String call, int a, int b) {
-        String got = answer(call, a, b, true);
-        String due = answer(call, a, b, false);
-        log.add(call + "(" + a + ", " + b + ") -> " + got);
-        return got.equals(due) ? null : call + "(" + a + ", " + b + ") answered " + got + ", due is " + due;
-    }
-
-    private String answer(String call, int a, int b, boolean real) {
-        try {
-            return String.valueOf(answered(call, a, b, real));
-        } catch (NoSuchElementException e) {
-            return "throws NoSuchElementException";
-        }
-    }
-
-    private Object answered(String call, int a, int b, boolean real) {
-        switch (call) {
-            case "tables": return real ? x.tables() : m.tables();
-            case "rows": return real ? x.rows() : m.rows();
-            case "ask": return real ? x.ask() : m.ask();
-            case "question": return real ? x.question() : m.question();
-            case "width": return real ? x.width(a) : m.width(a);
-            case "row": return real ? x.row(a, b) : m.row(a, b);
-            case "cell": return real ? x.cell(a, b) : m.cell(a, b);
-            case "holds": return real ? x.holds(a, b) : m.holds(a, b);
-            case "found": return real ? x.found(a) : m.found(a);
-            case "tie": return real ? x.tie(a, b) : m.tie(a, b);
-            case "joining": return real ? x.joining(a, b) : m.joining(a, b);
-            case "place": return real ? x.place(a, b) : m.place(a, b);
-            case "looks": return real ? x.looks(a, b) : m.looks(a, b);
-            case "asked": return real ? x.asked(a, b) : m.asked(a, b);
-            case "said": return real ? x.said(a, b) : m.said(a, b);
-            case "choose": return real ? x.choose(a) : m.choose(a);
-            case "parts": return real ? x.parts(a) : m.parts(a);
-            case "left": return real ? x.left() : m.left();
-            case "near": return real ? x.near(a, b) : m.near(a, b);
-            case "meant": return real ? x.meant(a) : m.meant(a);
-            case "judged": return real ? x.judged(a) : m.judged(a);
-            case "person": return real ? x.person(a) : m.person(a);
-            case "hide": return real ? x.hide(a / 64, a % 64, b != 0) : m.hide(a / 64, a % 64, b != 0);
-            case "offered": return real ? x.offered(a) : m.offered(a);
-            case "lets": return real ? x.lets(a) : m.lets(a);
-            default: return real ? x.count(a) : m.count(a);
-        }
-    }
-
     // ---- texts
-
-    private String tell(String text, String call) {
-        log.add("tape: " + text.replace("\n", "\\n"));
-        for (int from = 0; from < text.length(); from += 24) {
-            long[] three = Feeder.pack(text, from);
-            if (x.feed(three[0], three[1], three[2]) != m.feed(three[0], three[1], three[2])) return "feed is not the same";
-        }
-        return same(call, 0, 0);
-    }
 
     private String spoil(String text, boolean yes) {
         if (!yes || text.isEmpty()) return text;
@@ -172,8 +115,8 @@ public final class ModelTest {
             newKinds.add(its);
             text.append(chance.nextBoolean() ? ";\n" : " ; ");
         }
-        String wrong = tell(spoil(text.toString(), spoilt && chance.nextBoolean()), "tables");
-        if (log.get(log.size() - 1).endsWith("-> 0")) {
+        String wrong = pair.tell(spoil(text.toString(), spoilt && chance.nextBoolean()), "tables");
+        if (pair.lastWasZero()) {
             names.clear();
             kinds.clear();
             // a spoilt text that is read all the same may tell others: the rows for it are just more often wrong then
@@ -195,7 +138,7 @@ public final class ModelTest {
             text.append(chance.nextBoolean() ? " ; " : ";");
             there[table]++;
         }
-        return tell(spoil(text.toString(), spoilt), "rows");
+        return pair.tell(spoil(text.toString(), spoilt), "rows");
     }
 
     private String cell(String kind, int[] there, boolean spoilt) {
@@ -226,7 +169,7 @@ public final class ModelTest {
             else text.append(kind == 7 ? "over " : "under ").append(chance.nextInt(4) == 0 ? "00" : "").append(chance.nextInt(15));
             text.append(i + 1 < many || chance.nextBoolean() ? " " : "");
         }
-        return tell(spoil(text.toString(), spoilt), "ask");
+        return pair.tell(spoil(text.toString(), spoilt), "ask");
     }
 
     private String readQuestion() {
@@ -240,6 +183,6 @@ public final class ModelTest {
         }
         if (chance.nextInt(5) == 0) sentence = sentence + " , " + halves[1];
         if (chance.nextInt(5) == 0) sentence = halves[0] + " , " + sentence;
-        return tell(spoil(sentence, chance.nextInt(3) == 0), "question");
+        return pair.tell(spoil(sentence, chance.nextInt(3) == 0), "question");
     }
 }
